@@ -13,9 +13,11 @@ public final class DeedsTest {
         harmAndWet();
         seedsSpread();
         birdsDrop();
+        fewBirds();
         planIsFollowed();
         bookIsFull();
         undoing();
+        stormsGoBack();
         imaging();
         CHECK.end();
     }
@@ -189,6 +191,24 @@ public final class DeedsTest {
         CHECK.due("promise 12: no CROSSING, alike: the new one", x.days(1), 1);
         CHECK.due("promise 12: its KIND", x.at(9, 4), 0);
         CHECK.due("promise 12: no more for it", x.at(9, 5), 8);
+        weakOnesCross();
+    }
+
+    private static void weakOnesCross() {
+        int[][] gusts = {{1, 1, 2}, {1, 4, 5}, {4, 1, 5}, {8, 3, 9}, {9, 9, 9}};
+        for (int[] g : gusts) {
+            StormSeeds x = new StormSeeds();
+            CHECK.text(x, 0, "kind 1 lasts 9 spread 0;kind 1 lasts 9 spread 0;kind 1 lasts 3 spread 0;cross 0 with 1 to 2;", 4);
+            CHECK.text(x, 1, "gust " + g[0] + " when kind=0;gust " + g[1] + ";", 2);
+            x.sow(0, 9);
+            x.days(2);
+            x.sow(1, 9);
+            x.days(1);
+            CHECK.due("promise 12: crossed", x.days(1), 1);
+            CHECK.due("promise 12: of " + g[0] + " and " + g[1], x.at(9, 5), g[2]);
+            CHECK.due("promise 12: of the third KIND", x.at(9, 4), 2);
+            CHECK.due("promise 12: its last DAY", x.at(9, 6), 5);
+        }
     }
 
     private static void harmAndWet() {
@@ -312,6 +332,39 @@ public final class DeedsTest {
         CHECK.due("no DRAWS in thought", x.look(11), state);
     }
 
+    private static void fewBirds() {
+        StormSeeds x = new StormSeeds();
+        x.land(2, 2);
+        CHECK.text(x, 0, "kind 20 lasts 1 spread 0;", 1);
+        x.days(1);
+        CHECK.due("promise 12: no DRAW without BIRDS", x.look(11), 0);
+        x.set(0, 0, 1);
+        x.days(1);
+        CHECK.due("promise 12: a DRAW for one bird", x.look(11), 1013904223);
+        x.set(0, 0, 1000);
+        x.state(0);
+        x.days(1);
+        int state = 0;
+        int[] drawn = new int[3];
+        for (int i = 0; i < 3; i++) {
+            state = state * 1664525 + 1013904223;
+            drawn[i] = state >>> 8;
+        }
+        CHECK.due("promise 12: three DRAWS for one KIND", x.look(11), state);
+        int place = drawn[1] % 4;
+        CHECK.due("promise 12: in a land of two by two", x.at(8 * (place / 2) + place % 2, 2), 0);
+        StormSeeds y = new StormSeeds();
+        y.land(2, 2);
+        CHECK.text(y, 0, "kind 1 lasts 9 spread 0;", 1);
+        for (int cell : new int[] {0, 1, 8, 9}) {
+            y.sow(0, cell);
+        }
+        y.days(2);
+        y.set(0, 0, 1000);
+        y.days(3);
+        CHECK.due("promise 12: where STORMS are none falls", y.look(8), 0);
+    }
+
     private static void planIsFollowed() {
         StormSeeds x = new StormSeeds();
         CHECK.text(x, 0, "kind 1 lasts 1 spread 1;kind 2 lasts 1 spread 0;", 2);
@@ -426,6 +479,33 @@ public final class DeedsTest {
         x.turn(3);
         x.land(5, 4);
         CHECK.no("promise 31: land forgets", x.undo());
+    }
+
+    private static void stormsGoBack() {
+        StormSeeds x = new StormSeeds();
+        CHECK.text(x, 0, "kind 1 lasts 9 spread 0;kind 1 lasts 5 spread 0;", 2);
+        CHECK.text(x, 1, "gust 3+kind;", 1);
+        x.sow(0, 9);
+        x.days(2);
+        x.sow(1, 9);
+        x.image(true);
+        for (int round = 0; round < 2; round++) {
+            CHECK.due("promise 12: the stronger one stays", x.days(2), 1);
+            int[] due = {1, 4, 7};
+            int[] was = {0, 3, 9};
+            for (int i = 0; i < 3; i++) {
+                CHECK.due("promise 13: the new STORM", x.at(9, 4 + i), due[i]);
+            }
+            if (round == 0) {
+                x.undo();
+                x.undo();
+            } else {
+                x.image(false);
+            }
+            for (int i = 0; i < 3; i++) {
+                CHECK.due("promises 31, 32: the old STORM", x.at(9, 4 + i), was[i]);
+            }
+        }
     }
 
     private static void imaging() {

@@ -118,6 +118,11 @@ public final class KindsTest {
         law("gust 9 when not 1=2 and 1=2;gust 4;", 4);
         law("gust 9 when not (1=2 and 1=2);gust 4;", 9);
         law("gust 9 when not not not 1=2;gust 4;", 9);
+        law("gust 9 when not 1=1;gust 4;", 4);
+        law("gust 9 when not not not 1=1;gust 4;", 4);
+        law("gust 9 when 1<2 and 2=2 and 3>2;gust 4;", 9);
+        law("gust 9 when 1=2 and (1=1);gust 4;", 4);
+        law("gust 9 when 2<1 or 2<2 or 1>2 or 2>2;gust 4;", 4);
         law("gust 9 when 1=2 or 1=2 or 2=2 and 3=3 and 4=5 or 6=6;gust 4;", 9);
         law("gust 9 when 1=2 or 1=2 or 2=2 and 3=3 and 4=5;gust 4;", 4);
         law("gust 9 when ((1=1 or not 1=1) and (1=2 or (2=2 and not 1=2)));gust 4;", 9);

@@ -160,6 +160,10 @@ public final class LandTest {
         CHECK.due("promise 13: not beside across a corner", x.at(2, 7), 0);
         CHECK.due("promise 13: hedges", x.at(9, 8), 2);
         CHECK.due("promise 13: a HEDGE", x.at(8, 1), 1);
+        int[] empty = {2, 0, -1, -1, -1, 0, -1, 0, 0, 0};
+        for (int i = 0; i < empty.length; i++) {
+            CHECK.due("promise 13: at(28, " + i + ") of an empty one", x.at(28, i), empty[i]);
+        }
         CHECK.due("promise 13: another what", x.at(9, 10), -2);
         CHECK.due("promise 13: what -1", x.at(9, -1), -2);
         CHECK.due("promise 13: no such cell", x.at(5, 0), -2);

@@ -127,6 +127,11 @@ public final class TextsTest {
         CHECK.fault(x, 0, "cross 0 with 0 to 0;" + KIND, 2, 6);
         CHECK.fault(x, 0, "want", 1, 0);
         CHECK.fault(x, 0, "kind 1 spread 1 lasts 1;", 1, 7);
+        CHECK.fault(x, 0, "kind 1 1 spread 0;", 1, 7);
+        CHECK.fault(x, 0, "kind 1 lasts 1 0;", 1, 15);
+        CHECK.fault(x, 0, "1 lasts 1 spread 0;", 1, 0);
+        CHECK.fault(x, 0, KIND + "cross 0 0 to 0;", 1, 32);
+        CHECK.fault(x, 0, KIND + "cross 0 with 0 0;", 1, 39);
         CHECK.fault(x, 0, "kind 1 lasts 1 spread 1", 1, 23);
         CHECK.fault(x, 0, "kind 1 lasts 1 spread 1  \n", 1, 26);
         CHECK.fault(x, 0, ";", 1, 0);
@@ -148,6 +153,15 @@ public final class TextsTest {
         CHECK.fault(x, 1, "gust 1 when (1<2;", 1, 16);
         CHECK.fault(x, 1, "gust 1 when 1<2);", 1, 15);
         CHECK.fault(x, 1, "gust 1 when;", 1, 11);
+        CHECK.fault(x, 1, "gust 1 1=1;", 1, 7);
+        CHECK.fault(x, 1, "gust 1 gust 1;", 1, 7);
+        CHECK.fault(x, 1, "gust 1 when 1=1 1=1;", 1, 16);
+        CHECK.fault(x, 1, "wet;", 1, 0);
+        for (int i = 0; i < 9; i++) {
+            CHECK.text(x, 1, "gust 9 when " + times(40, "1=2 or ") + "2=2;harm 5;", 2);
+        }
+        CHECK.text(x, 0, KIND, 1);
+        CHECK.due("promise 7: told again and again", x.gust(0, 0, 0), 9);
         CHECK.fault(x, 1, "gust 1+;", 1, 7);
         CHECK.fault(x, 1, "gust;", 1, 4);
         CHECK.fault(x, 1, "1;", 1, 0);
@@ -182,6 +196,12 @@ public final class TextsTest {
         CHECK.fault(x, 2, "want 0 at 28 worth 3;", 1, 13);
         CHECK.fault(x, 2, "want storm at 0 on 0 worth 1;", 1, 5);
         CHECK.fault(x, 2, "on 5 west;", 1, 0);
+        CHECK.fault(x, 2, "calm at 0 on 0 worth 1;", 1, 0);
+        CHECK.fault(x, 2, "0 at 0 on 0 worth 1;", 1, 0);
+        CHECK.fault(x, 2, "want 0 0 on 0 worth 1;", 1, 7);
+        CHECK.fault(x, 2, "want 0 at 0 0 worth 1;", 1, 12);
+        CHECK.fault(x, 2, "want 0 at 0 on 0 1;", 1, 17);
+        CHECK.fault(x, 2, "want 0 at 0 on 0 worth 1 want", 1, 25);
         CHECK.due("promise 7: WANTS stay as they were", x.look(13), 1);
     }
 
@@ -201,6 +221,10 @@ public final class TextsTest {
         CHECK.fault(x, 3, "on 1 north east;", 1, 11);
         CHECK.fault(x, 3, "on 1 sow 0;", 1, 10);
         CHECK.fault(x, 3, "sow 0 at 0;", 1, 0);
+        CHECK.fault(x, 3, "5 west;", 1, 0);
+        CHECK.fault(x, 3, "on west;", 1, 3);
+        CHECK.fault(x, 3, "on 1 sow 0 0;", 1, 11);
+        CHECK.fault(x, 3, "on 1 ;", 1, 5);
     }
 
     private static void faultsOfTokens() {
@@ -219,6 +243,18 @@ public final class TextsTest {
         CHECK.fault(x, 0, "kind 1 lasts 1 spread 0;\u0000", 1, 24);
         CHECK.text(x, 1, "gust wet+soil-day*3/2 when not(edge=1or kind=2)and beside<2;", 1);
         CHECK.fault(x, 1, "gust wet when not(edge=1orkind=2);", 1, 24);
+        CHECK.fault(x, 0, "kindz 1 lasts 1 spread 0;", 1, 0);
+        CHECK.fault(x, 0, "kindA 1 lasts 1 spread 0;", 1, 0);
+        CHECK.fault(x, 0, "kindZ 1 lasts 1 spread 0;", 1, 0);
+        CHECK.fault(x, 0, "kind@1 lasts 1 spread 0;", 1, 4);
+        CHECK.fault(x, 0, "kind[1 lasts 1 spread 0;", 1, 4);
+        CHECK.fault(x, 0, "kind`1 lasts 1 spread 0;", 1, 4);
+        CHECK.fault(x, 0, "kind{1 lasts 1 spread 0;", 1, 4);
+        CHECK.fault(x, 0, "kind/1 lasts 1 spread 0;", 1, 4);
+        CHECK.fault(x, 0, "kind:1 lasts 1 spread 0;", 1, 4);
+        CHECK.fault(x, 1, times(400, ";"), 1, 0);
+        CHECK.fault(x, 1, "gust 1" + times(197, "+1"), 1, 400);
+        CHECK.text(x, 1, "gust 1" + times(196, "+1") + ";", 1);
         String full = "gust 1;" + " ".repeat(393);
         CHECK.text(x, 1, full, 1);
         CHECK.fault(x, 1, "gust 1" + " ".repeat(394), 1, 400);

@@ -36,13 +36,21 @@ public final class ThoughtTest {
         CHECK.due("promise 18: DAY 1", x.blows(2), set(48));
         CHECK.due("promise 18: DAY 2, ahead of (d)", x.blows(3), set(48, 54));
         CHECK.due("promise 18: DAY 3, weeded by A PLAN", x.blows(4), 0);
-        CHECK.due("promise 18: DAY 60", x.blows(60), 0);
+        CHECK.due("promise 18: the 60th DAY", x.blows(60), 0);
+        x.sow(1, 0);
+        x.days(1);
+        CHECK.text(x, 3, "on 1 sow 1 at 54;on 1 weed 0;on 3 weed 49;", 3);
+        CHECK.due("promise 18: A PLAN for this DAY, too", x.blows(1), set(48));
+        CHECK.text(x, 0, "kind 1 lasts 2 spread 1;kind 1 lasts 1 spread 0;", 2);
+        CHECK.text(x, 3, "on 2 sow 1 at 54;on 4 weed 49;", 2);
+        x.sow(0, 48);
         int[] harm = {0, 4, 4 + 4 + 5, 13, 13};
         for (int n = 1; n <= 5; n++) {
             CHECK.due("promise 19: of " + n + " DAYS", x.harms(n), harm[n - 1]);
         }
         x.days(2);
         CHECK.due("promise 33: HARM", x.look(5), 4);
+        CHECK.due("promise 33: DAY", x.look(2), 3);
         CHECK.due("promise 19: of this DAY alone", x.harms(1), 9);
         CHECK.due("promise 18: of this DAY", x.blows(1), set(48, 54));
         for (int n : new int[] {0, -1, 61, Integer.MAX_VALUE, Integer.MIN_VALUE}) {
@@ -107,6 +115,10 @@ public final class ThoughtTest {
         x.days(1);
         CHECK.due("promise 20: DAY 2 is behind", x.meets(0), 4 + 32);
         CHECK.due("promise 20: all are met", x.meets(1), NONE);
+        CHECK.text(x, 3, "on 3 sow 0 at 8;on 5 sow 0 at 9;on 6 weed 9;", 3);
+        CHECK.text(x, 2, "want 0 at 8 on 4 worth 5;want 0 at 9 on 6 worth 6;want calm at 8 on 5 worth 7;", 3);
+        CHECK.due("promise 20: with A PLAN", x.meets(0), 5);
+        CHECK.due("promise 20: the first with A PLAN", x.meets(1), 2);
         CHECK.due("promise 20: another what", x.meets(2), NONE);
         CHECK.due("promise 20: what -1", x.meets(-1), NONE);
     }
@@ -132,6 +144,7 @@ public final class ThoughtTest {
             CHECK.due("promise 21: of calm: sows(2, " + what + ")", x.sows(2, what), calm[what]);
         }
         CHECK.due("promise 21: by none", x.sows(3, 0), NONE);
+        CHECK.due("promise 21: by none no CELL", x.sows(3, 1), NONE);
         CHECK.due("promise 21: by none no HARM", x.sows(3, 2), NONE);
         CHECK.due("promise 21: no such WANT", x.sows(6, 0), NONE);
         CHECK.due("promise 21: WANT -1", x.sows(-1, 0), NONE);
@@ -143,6 +156,15 @@ public final class ThoughtTest {
         x.sow(1, 1);
         CHECK.due("promise 21: not where a SEED is", x.sows(1, 1), 0);
         x.weed(1);
+        x.sow(0, 3);
+        x.days(2);
+        CHECK.due("promise 33: HARM", x.look(5), 5);
+        CHECK.text(x, 2, "want 1 at 1 on 4 worth 1;want 0 at 3 on 2 worth 1;", 2);
+        CHECK.due("promise 21: HARM up to now does not count", x.sows(0, 2), 3);
+        x.undo();
+        x.undo();
+        x.undo();
+        CHECK.text(x, 2, "want 0 at 1 on 2 worth 1;want 1 at 1 on 2 worth 1;want calm at 1 on 2 worth 1;want 0 at 3 on 0 worth 1;", 4);
         x.days(1);
         CHECK.due("promise 21: its DAY is behind", x.sows(3, 0), NONE);
         CHECK.due("promise 21: on DAY 2 from DAY 1", x.sows(0, 1), 1);
@@ -200,6 +222,12 @@ public final class ThoughtTest {
         // DAYS 20, 48 (28 later), 76; with LASTS 5: 20, 44, 68.
         CHECK.due("promise 22: 77", y.gets(0, 0, 6), 77);
         CHECK.due("promise 22: 69", y.gets(1, 0, 6), 69);
+        // DAYS 20, 46, 72, 98; and 19, 39, 59, 79, 99, which is the 100th.
+        CHECK.text(y, 0, "kind 20 lasts 7 spread 1;kind 19 lasts 2 spread 1;kind 19 lasts 1 spread 1;", 3);
+        CHECK.due("promise 22: 99", y.gets(0, 0, 3), 99);
+        CHECK.due("promise 22: 100 is too late", y.gets(1, 0, 4), NONE);
+        CHECK.due("promise 22: 80", y.gets(1, 0, 3), 80);
+        CHECK.due("promise 22: 96", y.gets(2, 0, 4), 96);
     }
 
     private static void weeding() {
@@ -282,7 +310,7 @@ public final class ThoughtTest {
         CHECK.due("promise 27: n 61", x.calm(9, 61, 0), NONE);
         CHECK.due("promise 27: no such CELL", x.calm(5, 1, 0), NONE);
         CHECK.due("promise 27: CELL -1", x.calm(-1, 1, 0), NONE);
-        CHECK.due("promise 27: another what", x.calm(9, 1, 2), NONE);
+        CHECK.due("promise 27: another what", x.calm(10, 1, 2), NONE);
         CHECK.due("promise 27: what -1", x.calm(9, 1, -1), NONE);
     }
 }
