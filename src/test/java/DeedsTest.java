@@ -387,6 +387,12 @@ public final class DeedsTest {
         line(x, 5, 2, 5, 8, 0);
         x.days(1);
         CHECK.due("promise 12: what can't be is let be", x.look(3), 2);
+        CHECK.text(x, 3, "on 4 north;on 5 east;on 6 south;on 7 west;", 4);
+        int[] winds = {0, 1, 2, 3};
+        for (int wind : winds) {
+            x.days(1);
+            CHECK.due("promise 12: A PLAN turns to " + wind, x.look(3), wind);
+        }
     }
 
     private static void bookIsFull() {
@@ -434,6 +440,7 @@ public final class DeedsTest {
         CHECK.yes("promise 31: the TURNING", x.undo());
         CHECK.due("promise 31: the WIND", x.look(3), 1);
         CHECK.yes("promise 31: the SOWING", x.undo());
+        CHECK.due("promise 31: no line of THE BOOK", x.look(10), 0);
         CHECK.due("promise 31: no SEED", x.at(0, 2), NONE);
         CHECK.no("promise 31: nothing is left", x.undo());
         x.days(9);

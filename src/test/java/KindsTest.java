@@ -128,8 +128,10 @@ public final class KindsTest {
         law("gust 9 when ((1=1 or not 1=1) and (1=2 or (2=2 and not 1=2)));gust 4;", 9);
         law("gust 8 when wet-soil<0-0;gust 4;", 8);
         law("gust 0-3/2+3;", 2);
+        law("gust 7/1;", 7);
         law("gust kind-soil/4*3-5+9;", 2);
         division();
+        stormIsGone();
         edges();
     }
 
@@ -145,6 +147,18 @@ public final class KindsTest {
             CHECK.due("promise 16: " + product + " by " + by + " goes towards 0", x.gust(0, 0, 0), 5);
         }
         CHECK.due("such a product is negative", product < 0 ? 1 : 0, 1);
+    }
+
+    private static void stormIsGone() {
+        StormSeeds x = new StormSeeds();
+        CHECK.text(x, 0, "kind 1 lasts 2 spread 0;", 1);
+        CHECK.text(x, 1, "gust 4+storm;", 1);
+        x.sow(0, 9);
+        x.days(2);
+        CHECK.due("promise 16: storm is the GUST there", x.gust(0, 9, 0), 8);
+        CHECK.due("promise 16: storm is not beside", x.gust(0, 10, 0), 4);
+        x.days(1);
+        CHECK.due("promise 16: storm is 0 without one", x.gust(0, 9, 0), 4);
     }
 
     private static void edges() {

@@ -169,6 +169,15 @@ public final class LandTest {
         CHECK.due("promise 13: no such cell", x.at(5, 0), -2);
         CHECK.due("promise 13: cell -1", x.at(-1, 0), -2);
         CHECK.due("promise 13: cell 64", x.at(64, 0), -2);
+        x.set(2, 9, 0);
+        x.set(2, 2, 1);
+        CHECK.due("promise 13: hedges of the first cell", x.at(0, 8), 2);
+        CHECK.due("promise 13: hedges of the last one", x.at(28, 8), 0);
+        x.set(2, 27, 1);
+        x.set(2, 20, 1);
+        CHECK.due("promise 13: of the last one, then", x.at(28, 8), 2);
+        CHECK.due("promise 13: not round the row's end", x.at(4, 8), 0);
+        CHECK.due("promise 13: nor round its begin", x.at(16, 8), 1);
         CHECK.due("promise 33: STORMS", x.look(9), 1);
         CHECK.due("promise 33: SEEDS", x.look(8), 1);
         CHECK.due("promise 33: HARM", x.look(5), 15);
