@@ -168,6 +168,12 @@ public final class RandomRunsTest {
         }
         tell(0, kindsText());
         if (m.look(6) == 0) tell(0, "kind 1 lasts 2 spread 3;kind 2 lasts 1 spread 2;cross 0 with 1 to 1;");
+        if (one(6)) {
+            // Near the last DAY, where days() is refused and thought goes on.
+            for (int i = 0; i < 16; i++) due("days(60)", x.days(60), m.days(60));
+            int n = 1 + upTo(39);
+            due("days(" + n + ")", x.days(n), m.days(n));
+        }
         while (calls < CALLS - 60) {
             step();
             if (one(10)) compareAll();
