@@ -13,7 +13,7 @@ final class Bounds {
     private final String document;
     private final TreeSet<String> named = new TreeSet<>();
     private String sentence = "";
-    private int sentences;
+    private final TreeSet<String> sentences = new TreeSet<>();
     private int inside;
     private int beyond;
 
@@ -39,7 +39,7 @@ final class Bounds {
     private void begin(String where, String words) {
         close();
         sentence = where + " \"" + words + "\"";
-        sentences++;
+        sentences.add(sentence);
         named.add(where);
         if (document != null) {
             check.due(sentence + " stands in the document", document.contains(plain(words)), true);
@@ -117,7 +117,7 @@ final class Bounds {
         for (int i = 0; i <= PARTS; i++) {
             check.due("Terms " + i + " are named", named.contains("Terms " + i), true);
         }
-        System.out.println(sentences + " sentences that name a bound");
+        System.out.println(sentences.size() + " sentences that name a bound");
         check.end();
     }
 }
