@@ -118,9 +118,10 @@ public final class DocumentTest {
     /** "7 times call = due" or "7 times: call = due; call = due". */
     private void askAgain(String line, String where) {
         int times = Integer.parseInt(line.substring(0, line.indexOf(' ')));
-        String calls = line.substring(line.indexOf(" times") + 6).replaceFirst("^:", "");
+        String calls = line.substring(line.indexOf(" times") + 6);
+        String[] each = calls.startsWith(":") ? calls.substring(1).split("; ") : new String[] {calls};
         for (int i = 0; i < times; i++) {
-            for (String call : calls.split(";")) ask(call.strip(), where);
+            for (String call : each) ask(call.strip(), where);
         }
     }
 
